@@ -65,6 +65,8 @@ final class LooksTest {
         x.pit(1, 0, 0, 10);
         x.fall(0);
         Due.due("a fall without men", x.beyond(0), 1);
+        x.told(1, 1, 1);
+        Due.due("by one", x.beyond(0), 1);
         x.told(1, 1, 0);
         Due.due("no men at all", x.beyond(0), 0);
         x = new PitInspector();
@@ -166,7 +168,7 @@ final class LooksTest {
     /** Of 12 pits not all are drawn in 60 times by some seeds. */
     private static void drawsEnd() {
         int ended = 0;
-        for (int seed = 0; seed < 300; seed++) {
+        for (int seed = 0; seed < 6000; seed++) {
             PitInspector x = office(0, 0, 0, 0, 0, 0, 0, 0, 0, 0, 0, 0);
             int bits = 0;
             long at = seed;

@@ -173,6 +173,17 @@ final class NetTest {
         Due.due("least with one", x.least(0), 9);
         x.road(0, 3, 1, false);
         airs(x, 0, 0, 0, 9);
+        x = office(1, 5);
+        x.road(4, 3, 1, false);
+        x.road(3, 2, 1, true);
+        x.road(2, 1, 1, false);
+        x.road(1, 0, 1, true);
+        x.fan(0, 0, 4, 9);
+        airs(x, 0, 0, 0, 0);
+        x.door(3, true);
+        airs(x, 0, 0, 0, 0);
+        x.door(1, true);
+        airs(x, 9, 9, 9, 9);
     }
 
     private static void leastAndTrials() {
@@ -227,6 +238,9 @@ final class NetTest {
         Due.due("worst with 1 open", x.worst(0), 3);
         Due.due("air stays", x.air(0), 10);
         Due.due("pit 1 has none", x.worst(1), -1);
+        x = office(1, 2);
+        x.road(0, 1, 1, true);
+        Due.due("the first road", x.worst(0), 0);
     }
 
     private static void pitsApart() {
@@ -308,6 +322,11 @@ final class NetTest {
         x.road(3, 2, 1, true);
         Due.due("one again", x.fewest(0), 1);
         Due.due("the other pit", x.fewest(1), -1);
+        x.place(0);
+        x.road(4, 0, 1, false);
+        x.road(0, 4, 1, false);
+        x.road(4, 2, 1, false);
+        Due.due("one of more ways behind", x.fewest(0), 1);
         x.place(1);
         Due.due("the other pit's place", x.fewest(1), 0);
         Due.due("and this one's", x.fewest(0), 1);

@@ -115,8 +115,11 @@ final class SurveyTest {
         x.plan(20, 0, 0, 0);
         x.face(0, 0, 0, 0);
         x.face(0, 1, 0, 0);
+        x.face(0, 1, 0, 100);
         x.water(0, 35, 0);
         x.water(1, 0, -5);
+        Due.due("of the third, least", x.yards(2, 0, 0), 70);
+        Due.due("of the third, most", x.yards(2, 0, 1), 130);
         int[][][] want = {{{25, 45}, {0, 35}}, {{5, 65}, {0, 25}}};
         for (int f = 0; f < 2; f++) {
             for (int v = 0; v < 2; v++) {
@@ -124,7 +127,7 @@ final class SurveyTest {
                 Due.due("most yards", x.yards(f, v, 1), want[f][v][1]);
             }
         }
-        int[][] wrong = {{2, 0, 0}, {-1, 0, 0}, {0, 2, 0}, {0, -1, 0}, {0, 0, 2}, {0, 0, -1}};
+        int[][] wrong = {{3, 0, 0}, {-1, 0, 0}, {0, 2, 0}, {0, -1, 0}, {0, 0, 2}, {0, 0, -1}};
         for (int[] w : wrong) {
             Due.due("no such yards", x.yards(w[0], w[1], w[2]), -1);
         }
@@ -220,5 +223,18 @@ final class SurveyTest {
         Due.due("by y alone", x.torn(), 3);
         x.shift(1, 5, 6);
         Due.due("nearer", x.torn(), -1);
+        x = office();
+        x.plan(0, 0, 0, 0);
+        x.plan(0, 0, 0, 0);
+        for (int k = 0; k < 30; k++) {
+            x.water(0, k, 1000);
+            x.face(0, 1, k, 2000);
+            x.join(0, k, 3000 + k, 1, k, 3001 + k, 1);
+        }
+        Due.due("as many as can be, all hold", x.torn(), -1);
+        Due.due("face 29 to water 0", x.yards(29, 0, 0), 1000);
+        Due.due("face 0 to water 29", x.yards(0, 29, 1), 1000);
+        x.shift(1, 0, 1);
+        Due.due("and none holds", x.torn(), 0);
     }
 }

@@ -6,7 +6,9 @@ final class TextsTest {
         faultsThatCannotStand();
         otherFaults();
         textsWithoutFault();
+        textsAfterFaults();
         limitOfTexts();
+        fullOffice();
         arithmetic();
         conditions();
         asMuchAsMatters();
@@ -205,6 +207,41 @@ final class TextsTest {
         fault(longest.toString().replace("=1)", "=1;"), -1000 - 159);
     }
 
+    /** A fault leaves nothing behind for the next text. */
+    private static void textsAfterFaults() {
+        PitInspector x = office();
+        StringBuilder all = new StringBuilder("n(1=1");
+        while (all.length() < 155) {
+            all.append("&1=1");
+        }
+        for (int k = 0; k < 5; k++) {
+            Due.due("no end", Due.act(x, all.toString()), -1000 - all.length());
+        }
+        Due.due("no fault", Due.act(x, all + ")"), 0);
+        Due.due("it holds", x.holds(0, 0, 0), 1);
+        Due.due("twelve with a fault", Due.act(x, "f1;f1;f1;f1;f1;f1;f1;f1;f1;f1;f1;f1;"), -1036);
+        Due.due("one", Due.act(x, "f1"), 1);
+        Due.due("it has one clause", x.counts(1, 0), 1);
+    }
+
+    /** As many texts, clauses and broken ones as can be. */
+    private static void fullOffice() {
+        PitInspector x = office();
+        String twelve = "n(1=1);n(1=1);n(1=1);n(1=1);n(1=1);n(1=1);n(1=1);n(1=1);n(1=1);n(1=1);n(1=1);n(1=1)";
+        for (int i = 0; i < 30; i++) {
+            Due.due("text " + i, Due.text(x, i % 2 == 0 ? -1 : 0, 0, 9, twelve), i);
+        }
+        Due.due("all broken", x.broken(0), 360);
+        Due.due("the last text", x.brokenAt(0, 359, 0), 29);
+        Due.due("the last clause", x.brokenAt(0, 359, 1), 11);
+        Due.due("none behind", x.brokenAt(0, 360, 0), -1);
+        Due.due("acts alone", x.broken(1), 180);
+        Due.due("their last text", x.brokenAt(1, 179, 0), 28);
+        Due.due("worth", x.worth(1), 15 + 20 * 180);
+        Due.due("nothing to pay", x.fine(0), 0);
+        Due.due("within", x.within(29), 1);
+    }
+
     private static void limitOfTexts() {
         PitInspector x = office();
         for (int i = 0; i < 30; i++) {
@@ -271,6 +308,9 @@ final class TextsTest {
         holds("!1=2", 1);
         holds("!1=1", 0);
         holds("!!1=1", 1);
+        holds("!1<2", 0);
+        holds("!2>1", 0);
+        holds("!!1<2", 1);
         holds("!1=2&1=2", 0);
         holds("!1=1|1=1", 1);
         holds("!(1=2&1=2)", 1);
@@ -335,6 +375,29 @@ final class TextsTest {
         Due.due("shots of the day's last minute", x.holds(1, 5, 0), 1);
         x.now(1440 * 3 + 60 * 7 + 5);
         Due.due("shots of a day ago", x.holds(0, 11, 0), 1);
+        String[] dear = {"a=0-1", "o=0-1", "w=99999", "q=0", "a+a=0-2", "o+o=0-2", "w-w=0", "q+q=0"};
+        for (String condition : dear) {
+            x = office();
+            Due.due("no fault", Due.act(x, "n(" + condition + ")"), 0);
+            Due.due(condition + " alone", x.holds(0, 0, 0), 1);
+            Due.due(condition + " alone is broken", x.broken(1), 1);
+        }
+        for (String condition : new String[] {"a=4", "o=1", "w=3", "q=1", "a+a=8", "o+o=2", "w+w=6", "q+q=2"}) {
+            x = office();
+            x.place(0);
+            x.place(0);
+            x.road(0, 1, 1, false);
+            x.fan(0, 0, 1, 4);
+            x.plan(0, 0, 0, 0);
+            x.water(0, 0, 0);
+            x.face(0, 0, 3, 0);
+            x.hand(0, 3);
+            x.down(0, -1);
+            x.shot(0);
+            Due.act(x, "d(" + condition + ")");
+            Due.due(condition, x.holds(0, 0, 0), 1);
+            Due.due(condition + " of the other pit", x.holds(0, 0, 1), 0);
+        }
     }
 
     private static void force() {
@@ -392,6 +455,11 @@ final class TextsTest {
         Due.act(x, "x1.0;x0.0");
         Due.due("struck for pit 1 too", x.counts(0, 1), 0);
         Due.due("rules for none but 0", x.counts(1, 1), 0);
+        x = office();
+        Due.act(x, "f1;f2");
+        Due.act(x, "x0.0;x0.0;x0.00");
+        Due.act(x, "x0.0");
+        Due.due("struck again and again", x.counts(0, 0), 1);
     }
 
     private static void holding() {
@@ -441,6 +509,11 @@ final class TextsTest {
         Due.due("an f that is struck fines not", x.fine(0), 4 * 7 + 99999);
         Due.act(x, "x0.8");
         Due.due("no f that counts", x.fine(0), 99999);
+        x = office();
+        Due.act(x, "f9;n(1=1)");
+        Due.due("an f ahead of it", x.fine(0), 9);
+        Due.act(x, "n(1=1);n(1=1);f4");
+        Due.due("each by its own text", x.fine(0), 9 + 2 * 4);
     }
 
     private static void withinActs() {
@@ -468,5 +541,9 @@ final class TextsTest {
         Due.due("text -1", x.within(-1), -1);
         Due.act(x, "d(q=1);n(h=0)");
         Due.due("a later act", x.within(6), 0);
+        x = office();
+        Due.act(x, "n(s=1);d(g=1)");
+        Due.rules(x, 0, "d(g=1);n(s=1);d(g=1&s=1);n(g=2)");
+        Due.due("another first byte, another last one", x.within(1), 1);
     }
 }
