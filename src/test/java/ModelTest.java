@@ -2,7 +2,7 @@ import java.util.Random;
 
 /** Runs of drawn calls, each answered by PitInspector and by the Model; the seeds are fixed. */
 final class ModelTest {
-    private static final int RUNS = 400;
+    private static final int RUNS = 600;
     private static final int CALLS = 512;
 
     private final Random random;
@@ -34,6 +34,9 @@ final class ModelTest {
             due("pit", x.pit(s, d, g, m), y.pit(s, d, g, m), s, d, g, m);
         }
         int theme = seed % 6;
+        if (theme == 1) {
+            wholeNet();
+        }
         while (calls < CALLS - 10) {
             int kind = random.nextInt(10) < 6 ? theme : random.nextInt(6);
             switch (kind) {
@@ -246,11 +249,58 @@ final class ModelTest {
         return all.toString();
     }
 
+    /** A net of some depth in pit 0, asked road by road while doors and fans change. */
+    private void wholeNet() {
+        int many = 5 + random.nextInt(4);
+        for (int k = 0; k < many; k++) {
+            due("place", x.place(0), y.place(0), 0);
+        }
+        int roads = many + random.nextInt(many);
+        for (int k = 0; k < roads; k++) {
+            int a = random.nextInt(many);
+            int c = Math.min(many - 1, Math.max(0, a + random.nextInt(5) - 2));
+            int w = 1 + random.nextInt(9);
+            boolean d = random.nextInt(4) == 0;
+            due("road", x.road(a, c, w, d), y.road(a, c, w, d), a, c, w, d ? 1 : 0);
+        }
+        for (int turn = 0; turn < 6; turn++) {
+            int r = of(y.roads.size());
+            boolean d = random.nextBoolean();
+            due("door", x.door(r, d), y.door(r, d), r, d ? 1 : 0);
+            int a = random.nextInt(many);
+            int c = random.nextInt(many);
+            int w = random.nextInt(200);
+            due("fan", x.fan(0, a, c, w), y.fan(0, a, c, w), 0, a, c, w);
+            for (int k = 0; k < y.roads.size(); k++) {
+                due("air", x.air(k), y.air(k), k);
+                due("trial", x.trial(k), y.trial(k), k);
+            }
+            due("least", x.least(0), y.least(0), 0);
+            due("worst", x.worst(0), y.worst(0), 0);
+        }
+        for (int k = 0; k < many; k++) {
+            due("ways", x.ways(k), y.ways(k), k);
+        }
+        due("fewest", x.fewest(0), y.fewest(0), 0);
+    }
+
+    /** A place, mostly one of the same pit: others are refused as a road's end. */
+    private int neighbourOf(int a) {
+        int c = of(y.places.size());
+        for (int tries = 0; tries < 10 && a >= 0 && a < y.places.size(); tries++) {
+            if (c >= 0 && c < y.places.size() && c != a && y.places.get(c).equals(y.places.get(a))) {
+                break;
+            }
+            c = of(y.places.size());
+        }
+        return c;
+    }
+
     private void net() {
         int p = of(y.pits.size());
         int r = of(y.roads.size());
         int a = of(y.places.size());
-        int c = of(y.places.size());
+        int c = neighbourOf(a);
         switch (random.nextInt(13)) {
             case 0: {
                 // cuts are tried one by one, so a pit of the model has few places

@@ -135,6 +135,14 @@ final class NetTest {
         airs(x, 0, 0, 0, 0, 0, 0, 16, 0, 0);
         x.fan(0, 0, 5, 1000000);
         airs(x, 500000, 250000, 250000, 500000, 500000, 0, 1000000, 1000000, 0);
+        x = office(1, 5);
+        x.road(1, 3, 1, false);
+        x.road(2, 3, 1, false);
+        x.road(3, 4, 1, false);
+        x.road(0, 1, 1, false);
+        x.road(0, 2, 1, false);
+        x.fan(0, 0, 4, 10);
+        airs(x, 5, 5, 10, 5, 5);
     }
 
     private static void airIsLeft() {
