@@ -445,7 +445,8 @@ public final class PitInspector {
     }
 
     private int worthOf(int p) {
-        return pits.gas[p] + pits.depth[p] / 10 + 20 * brokenBy(p);
+        learn(p);
+        return pits.gas[p] + pits.depth[p] / 10 + 20 * laws.findBroken(p, day());
     }
 
     /** The pits, what their books tell, and their falls. */
@@ -666,8 +667,17 @@ public final class PitInspector {
             if (letter == 'x') {
                 return strike(j);
             }
-            if (letter != 'f' && !outerCondition(j)) {
-                return false;
+            if (letter != 'f') {
+                text.byteFrom[j] = at + 1;
+                text.codeFrom[j] = text.codeLength;
+                if (!take('(') || !condition(1)) {
+                    return false;
+                }
+                text.byteTo[j] = at;
+                text.codeTo[j] = text.codeLength;
+                if (!take(')')) {
+                    return false;
+                }
             }
             if ((letter == 'f' || letter == 'w') && !number()) {
                 return false;
@@ -716,20 +726,6 @@ public final class PitInspector {
             return sign >= '0' && sign <= '9';
         }
 
-        private boolean outerCondition(int j) {
-            if (!take('(')) {
-                return false;
-            }
-            text.byteFrom[j] = at;
-            text.codeFrom[j] = text.codeLength;
-            if (!condition(1)) {
-                return false;
-            }
-            text.byteTo[j] = at;
-            text.codeTo[j] = text.codeLength;
-            return take(')');
-        }
-
         private boolean condition(int open) {
             int jumps = NONE;
             for (int parts = 0; parts < MOST_BYTES; parts++) {
@@ -764,29 +760,25 @@ public final class PitInspector {
 
         private boolean piece(int open) {
             int sign = peek();
-            if (sign != '!' && sign != '(') {
-                return comparison(open);
+            if (sign == '!' || sign == '(') {
+                if (open >= MOST_OPEN) {
+                    return fail(OPEN_TOO_MANY, at);
+                }
+                at++;
+                if (sign == '!') {
+                    return piece(open + 1) && emit('!', 0);
+                }
+                return condition(open + 1) && take(')');
             }
-            if (open >= MOST_OPEN) {
-                return fail(OPEN_TOO_MANY, at);
-            }
-            at++;
-            if (sign == '!') {
-                return piece(open + 1) && emit('!', 0);
-            }
-            return condition(open + 1) && take(')');
-        }
-
-        private boolean comparison(int open) {
             if (!sum(open)) {
                 return false;
             }
-            int sign = peek();
-            if (sign != '<' && sign != '>' && sign != '=') {
+            int compares = peek();
+            if (compares != '<' && compares != '>' && compares != '=') {
                 return fail(CANNOT_STAND, at);
             }
             at++;
-            return sum(open) && emit(sign, 0);
+            return sum(open) && emit(compares, 0);
         }
 
         private boolean sum(int open) {
@@ -1235,19 +1227,16 @@ public final class PitInspector {
         }
 
         int fewestWays(int p) {
-            if (fewestKnown[p] == UNKNOWN) {
-                fewestKnown[p] = findFewestWays(p);
+            if (fewestKnown[p] != UNKNOWN) {
+                return fewestKnown[p];
             }
-            return fewestKnown[p];
-        }
-
-        private int findFewestWays(int p) {
             int fewest = NONE;
             for (int place = 0; place < placeCount; place++) {
                 if (placePit[place] == p && !isBank(place)) {
                     fewest = waysOut(place, fewest == NONE ? MOST_ROADS : fewest);
                 }
             }
+            fewestKnown[p] = fewest;
             return fewest;
         }
 
