@@ -12,9 +12,12 @@ final class EdgesTest {
         oneMustHoldAllMust();
         lastFineThatCounts();
         withinBySameBytes();
+        withinByAllBytes();
+        worthByItsOwnPit();
         depthIsRoundedDown();
         partsAreRoundedDown();
         leftFromTheLowest();
+        leftGoesOn();
         oneStepLess();
         leastOfOpenRoads();
         worstOfLikeOnes();
@@ -153,6 +156,41 @@ final class EdgesTest {
         }
     }
 
+    /** Neither the beginning of the other's bytes nor bytes that go on behind it are the same. */
+    private static void withinByAllBytes() {
+        String[][] rulesAndActs = {{"d(g=1)", "n(g=11)"}, {"d(g=11)", "n(g=1)"}, {"n(g=1)", "d(g=1&g=1)"}, {"n(g=1|g=1)", "d(g=1)"},
+            {"d(g=1)", "n(1=1)"}, {"d(g=1)", "n(m=1)"}, {"d(g=1)", "n(g=2)"}, {"d(g=1)", "n(g<1)"}, {"d(g=1)", "n(g=1)"}};
+        for (String[] of : rulesAndActs) {
+            PitInspector x = office(0);
+            Due.act(x, of[1]);
+            Due.rules(x, 0, of[0]);
+            boolean same = of[0].substring(1).equals(of[1].substring(1));
+            Due.due("13 " + of[0] + " within " + of[1], x.within(1), same ? 0 : 1);
+        }
+    }
+
+    private static void worthByItsOwnPit() {
+        PitInspector x = new PitInspector();
+        x.pit(1, 0, 10, 0);
+        x.pit(2, 0, 20, 0);
+        x.pit(3, 0, 30, 0);
+        Due.act(x, "n(g=20);n(g>10);n(s=1)");
+        int[] want = {30, 60, 50};
+        int[] order = {0, 1, 2, 0, 2, 1, 1, 0};
+        for (int p : order) {
+            Due.due("49 worth of " + p, x.worth(p), want[p]);
+        }
+        for (int p : order) {
+            x.fine((p + 1) % 3);
+            Due.due("49 worth of " + p + " behind another's fine", x.worth(p), want[p]);
+            Due.due("10 broken by " + p, x.broken(p), (want[p] - 10 * (p + 1)) / 20);
+        }
+        x.send(3, 0, 0);
+        Due.due("51 of most worth", x.look(0, 0), 1);
+        Due.due("51 of less", x.look(1, 0), 2);
+        Due.due("51 of least", x.look(2, 0), 0);
+    }
+
     private static void depthIsRoundedDown() {
         int[][] want = {{0, 0}, {9, 0}, {10, 1}, {19, 1}, {1999, 199}, {2000, 200}};
         for (int[] w : want) {
@@ -212,6 +250,25 @@ final class EdgesTest {
         airs("a shut door has none", x, 3, 2, 0);
         x.door(2, true);
         airs("an open one has its part", x, 2, 2, 1);
+    }
+
+    /** What is left at a place goes neither back by the lower road that it came by, nor by roads that lead nowhere. */
+    private static void leftGoesOn() {
+        PitInspector x = office(0);
+        for (int k = 0; k < 4; k++) {
+            x.place(0);
+        }
+        x.road(0, 1, 1, false);
+        x.road(1, 3, 1, false);
+        x.road(1, 2, 1, true);
+        x.road(1, 2, 1, false);
+        x.road(1, 2, 1, false);
+        x.fan(0, 0, 2, 3);
+        airs("what is left goes on", x, 3, 0, 0, 2, 1);
+        x.fan(0, 2, 0, 5);
+        airs("and the other way", x, 5, 0, 0, 3, 2);
+        x.fan(0, 3, 2, 1);
+        airs("one alone", x, 0, 1, 0, 1, 0);
     }
 
     private static void oneStepLess() {

@@ -278,7 +278,7 @@ final class FullTest {
     }
 
     private static void shots() {
-        Town.refusedWhenFull("39 one more shot", FullTest::fullOfShots, x -> Town.bit(x.shot(0)), 0);
+        Town.refusedAtLast("39 one more shot", FullTest::fullOfShots, x -> Town.bit(x.shot(0)), 0);
         PitInspector x = fullOfShots();
         x.now(61);
         Due.due("39 one more in a later hour", x.shot(0), false);
@@ -354,7 +354,11 @@ final class FullTest {
         for (int k = 4; k < 16; k++) {
             y.seen(5, 4, 10 * k);
         }
+        Due.due("55 all of sixteen", y.most(), 65535);
+        Due.due("54 as it is judged", y.judge(65535), 1);
+        y.pace(8);
         Due.due("55 all but the clash of the first two", y.most(), 65535 & ~2);
-        Due.due("54 as it is judged", y.judge(65535 & ~2), 1);
+        Due.due("54 all with that clash", y.judge(65535), 0);
+        Due.due("54 all without it", y.judge(65535 & ~2), 1);
     }
 }

@@ -64,6 +64,7 @@ final class RangesTest {
         }
         Due.act(x, "d(1=2)");
         Due.rules(x, 0, "d(1=2);n(1=1)");
+        Due.feed(x, "f1");
         return x;
     }
 

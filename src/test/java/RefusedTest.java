@@ -10,6 +10,7 @@ final class RefusedTest {
     public static void main(String[] args) {
         rulesAndActs();
         faultsEmptyTheTape();
+        faultsLeaveNothingBehind();
         tapeStays();
         roadsAndFans();
         banksAndPlans();
@@ -61,6 +62,33 @@ final class RefusedTest {
         fault("x0.0;f1;f1;f1;f1;f1;f1;f1;f1;f1;f1;f1;x0.0", -4038);
         fault("d(((((((g=1)))))))", -5007);
         fault("x0.0;x1.0;x2.0;x3.0;n(1=1);f99999;d(a=o+w+q", -1043);
+    }
+
+    /** What was read of a text up to its fault is not there in the next one, be it shorter or as long as can be. */
+    private static void faultsLeaveNothingBehind() {
+        String[] faulty = {"f1;w(1=1)0;f9;n(1=1);x0.0;q", "w(1=1)0;w(1=1)0;w(1=1)0;f9;f9;f9;n(1=1);n(1=1);n(1=1);d(1=2);d(1=2);d(1=2);",
+            "n(1=1&1=1&1=1&1=1|1=2", "f9;f9;w(1=1)"};
+        String[] next = {"f1", "n(1=1)", "x0.0", "f1;f1;f1;f1;f1;f1;f1;f1;f1;f1;f1;n(1=1)"};
+        int[] broken = {0, 1, 0, 1};
+        int[] fine = {0, 0, 0, 1};
+        for (String wrong : faulty) {
+            for (int k = 0; k < next.length; k++) {
+                PitInspector x = new PitInspector();
+                x.pit(0, 0, 0, 0);
+                x.hand(0, 0);
+                x.warn(0);
+                x.now(1000);
+                Due.act(x, "f7");
+                Due.due("7 a fault", Due.act(x, wrong) < -999, true);
+                Due.due("7 the next", Due.act(x, next[k]), 1);
+                Due.due("10 broken behind a fault", x.broken(0), broken[k]);
+                Due.due("12 fine behind a fault", x.fine(0), fine[k]);
+                Due.due("45 no w behind a fault", x.late(0, 0), 0);
+                Due.due("8 struck behind a fault", x.counts(0, 0), next[k].equals("x0.0") ? 0 : 1);
+                Due.due("8 its clauses behind a fault", x.counts(1, 0), k == 3 ? 12 : 1);
+                Due.due("9 none more behind a fault", x.holds(1, k == 3 ? 12 : 1, 0), NONE);
+            }
+        }
     }
 
     private static void tapeStays() {

@@ -45,7 +45,7 @@ final class Town {
         x.inspectors(3);
         x.send(3, 50, 9);
         x.seen(0, 0, 10);
-        x.seen(0, 2, 12);
+        x.seen(0, 2, 17);
         x.seen(4, 4, 50);
         x.seen(0, 9, 2900);
         x.pace(7);
@@ -80,7 +80,7 @@ final class Town {
             x.road(r[0], r[1], r[2], r[3] == 1);
         }
         x.door(4, true);
-        x.fan(0, 0, 9, 100);
+        x.fan(0, 0, 1, 100);
         x.fan(1, 4, 6, 30);
     }
 
@@ -158,12 +158,20 @@ final class Town {
         alike(name + " changes nothing at all", ask(x), ask(y));
     }
 
-    /** The same of an office that took so many calls that only few may follow. */
+    /** The same of an office that took so many calls that fewer may follow. */
     static void refusedWhenFull(String name, Supplier<PitInspector> made, Call call, long answer) {
         PitInspector x = made.get();
         PitInspector y = made.get();
         Due.due(name, call.on(x), answer);
         alike(name + " changes nothing", ask(x), ask(y));
+        alike(name + " changes nothing that shows later", stir(x), stir(y));
+    }
+
+    /** The same of an office that took some 300 calls. */
+    static void refusedAtLast(String name, Supplier<PitInspector> made, Call call, long answer) {
+        PitInspector x = made.get();
+        Due.due(name, call.on(x), answer);
+        alike(name + " changes nothing", ask(x), ask(made.get()));
     }
 
     static void refused(String name, Call call, long answer) {
