@@ -761,14 +761,7 @@ public final class PitInspector {
         private boolean piece(int open) {
             int sign = peek();
             if (sign == '!' || sign == '(') {
-                if (open >= MOST_OPEN) {
-                    return fail(OPEN_TOO_MANY, at);
-                }
-                at++;
-                if (sign == '!') {
-                    return piece(open + 1) && emit('!', 0);
-                }
-                return condition(open + 1) && take(')');
+                return open < MOST_OPEN ? opened(sign, open + 1) : fail(OPEN_TOO_MANY, at);
             }
             if (!sum(open)) {
                 return false;
@@ -779,6 +772,14 @@ public final class PitInspector {
             }
             at++;
             return sum(open) && emit(compares, 0);
+        }
+
+        private boolean opened(int sign, int open) {
+            at++;
+            if (sign == '!') {
+                return piece(open) && emit('!', 0);
+            }
+            return condition(open) && take(')');
         }
 
         private boolean sum(int open) {
@@ -1984,26 +1985,26 @@ public final class PitInspector {
         }
 
         int greatestSet() {
-            return greater(count, 0, (1 << count) - 1, 0);
+            return greater(count, 0, (1 << count) - 1, 0, clashes);
         }
 
         /**
          * The greatest set of those chosen and of the free ones below k, or the best if none is greater.
          * The highest is left out first, so that of like sets the least is met first.
          */
-        private int greater(int k, int chosen, int free, int best) {
+        private static int greater(int k, int chosen, int free, int best, int[] clashes) {
             if (Integer.bitCount(chosen) + Integer.bitCount(free) <= Integer.bitCount(best)) {
                 return best;
             }
-            if (k <= 0) {
+            if (k <= 0 || k > clashes.length) {
                 return chosen;
             }
             int bit = 1 << k - 1;
             if ((free & bit) == 0) {
-                return greater(k - 1, chosen, free, best);
+                return greater(k - 1, chosen, free, best, clashes);
             }
-            int without = greater(k - 1, chosen, free & ~bit, best);
-            return greater(k - 1, chosen | bit, free & ~bit & ~clashes[k - 1], without);
+            int without = greater(k - 1, chosen, free & ~bit, best, clashes);
+            return greater(k - 1, chosen | bit, free & ~bit & ~clashes[k - 1], without, clashes);
         }
     }
 }

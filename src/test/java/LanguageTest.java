@@ -30,6 +30,7 @@ final class LanguageTest {
         }
         Due.due("at most twelve classes", many <= 12, true);
         methods(code);
+        selfCalls(code);
         fields();
         Due.end("LanguageTest");
     }
@@ -56,6 +57,22 @@ final class LanguageTest {
                 Due.due("a method's length up to " + line, length <= 60 || !line.matches(" {8}\\}"), true);
             }
         }
+    }
+
+    /** A method that calls itself is static; others that recur call one another. */
+    private static void selfCalls(String code) {
+        Pattern head = Pattern.compile("(?m)^ {4,8}((?:private |static |public |final )*)\\w+(?:\\[\\])* (\\w+)\\([^)]*\\) \\{$");
+        Matcher m = head.matcher(code);
+        int methods = 0;
+        while (m.find()) {
+            int end = code.indexOf("\n        }\n", m.end());
+            int endOfFace = code.indexOf("\n    }\n", m.end());
+            String body = code.substring(m.end(), end < 0 || endOfFace < end ? endOfFace : end);
+            boolean callsItself = Pattern.compile("(?<![.\\w])" + m.group(2) + "\\(").matcher(body).find();
+            Due.due("calls itself, and is not static: " + m.group(2), callsItself && !m.group(1).contains("static"), false);
+            methods++;
+        }
+        Due.due("methods were found", methods > 150, true);
     }
 
     private static void fields() {
